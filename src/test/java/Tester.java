@@ -1,0 +1,119 @@
+import java.util.Arrays;
+import java.util.NoSuchElementException;
+
+/** What all tests of the project use: calls with the answers that are due. */
+final class Tester {
+    interface Call {
+        int answer();
+    }
+
+    private final String name;
+    private int right;
+    private int wrong;
+
+    Tester(String name) {
+        this.name = name;
+    }
+
+    void due(String what, long got, long want) {
+        if (got == want) {
+            right++;
+        } else {
+            wrong++;
+            System.out.println(name + ": " + what + " answered " + got + ", due is " + want);
+        }
+    }
+
+    void due(String what, boolean got, boolean want) {
+        due(what, got ? 1 : 0, want ? 1 : 0);
+    }
+
+    /** A call must throw NoSuchElementException. */
+    void dueNone(String what, Call call) {
+        boolean thrown = false;
+        try {
+            call.answer();
+        } catch (NoSuchElementException e) {
+            thrown = true;
+        }
+        due(what + " throws NoSuchElementException", thrown, true);
+    }
+
+    /** The ROW must be just this. */
+    void dueRow(String what, WomenByTheRoofs x, int... want) {
+        int[] got = rowOf(x);
+        if (Arrays.equals(got, want)) {
+            right++;
+        } else {
+            wrong++;
+            System.out.println(name + ": the ROW of " + what + " is " + Arrays.toString(got)
+                    + ", due is " + Arrays.toString(want));
+        }
+    }
+
+    static int[] rowOf(WomenByTheRoofs x) {
+        int[] row = new int[x.count(11)];
+        for (int i = 0; i < row.length; i++) {
+            row[i] = x.row(i);
+        }
+        return row;
+    }
+
+    /** THE TEXT is this then. */
+    static void say(WomenByTheRoofs x, String text) {
+        x.end(0);
+        for (int i = 0; i < text.length(); i += 4) {
+            int four = 0;
+            for (int k = 0; k < 4; k++) {
+                int sign = i + k < text.length() ? text.charAt(i + k) : 0;
+                four = four << 8 | sign;
+            }
+            x.sign(four);
+        }
+        x.end(text.length());
+    }
+
+    static int town(WomenByTheRoofs x, String text) {
+        say(x, text);
+        return x.town();
+    }
+
+    static int folk(WomenByTheRoofs x, String text) {
+        say(x, text);
+        return x.folk();
+    }
+
+    static int rule(WomenByTheRoofs x, String text) {
+        say(x, text);
+        return x.rule();
+    }
+
+    static int route(WomenByTheRoofs x, int person, String text) {
+        say(x, text);
+        return x.route(person);
+    }
+
+    static int evening(WomenByTheRoofs x, String text) {
+        say(x, text);
+        return x.evening();
+    }
+
+    /** A new object with a town and its people. */
+    static WomenByTheRoofs made(String town, String folk) {
+        WomenByTheRoofs x = new WomenByTheRoofs();
+        town(x, town);
+        folk(x, folk);
+        return x;
+    }
+
+    static String repeat(String what, int many) {
+        return what.repeat(many);
+    }
+
+    void finish() {
+        System.out.println(name + ": " + right + " right, " + wrong + " wrong");
+        if (wrong != 0) {
+            System.exit(1);
+        }
+    }
+}
