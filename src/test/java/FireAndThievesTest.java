@@ -95,6 +95,9 @@ public final class FireAndThievesTest {
         T.due("37 no stair first", x.wardrobe(3, 0), -1);
         T.due("37 no such cell", x.wardrobe(0, 6), -1);
         T.due("37 no such cell below 0", x.wardrobe(-1, 0), -1);
+        Tester.town(x, "hhh/s.s");
+        T.due("37 by the upper row", x.wardrobe(3, 5), 4);
+        T.dueRow("37 by the upper row", x, 40, 11, 11, 42);
         Tester.town(x, "s.s");
         x.plank(0, 2);
         T.due("37 no planks", x.wardrobe(0, 2), -2);
@@ -154,6 +157,14 @@ public final class FireAndThievesTest {
         WomenByTheRoofs y = Tester.made(".#s/h##", "m0:o");
         T.due("39 both levels", y.lairs(30), 3);
         T.dueRow("39 both levels", y, 4, 0, 12, 0);
+        WomenByTheRoofs w = Tester.made("hh", "w0:o;w1:lr");
+        T.due("39 above", w.lairs(1), 2);
+        T.dueRow("39 above", w, 0, 0, 3, 0);
+        T.due("39 above, two", w.lairs(2), 0);
+        WomenByTheRoofs one = Tester.made("s", "m0:o");
+        T.due("39 of their levels", one.lairs(1), 2);
+        WomenByTheRoofs full = Tester.made("..", "m0:o;m0:rl");
+        T.due("39 caught in the first", full.lairs(2), 0);
         WomenByTheRoofs m = Tester.made("...", "m0:rrll");
         T.due("39 as flees() has it", m.lairs(1), 3);
         WomenByTheRoofs far = Tester.made("######/######/######/..s###/######/######", "m18:o");
@@ -200,6 +211,9 @@ public final class FireAndThievesTest {
         T.dueRow("41 on a stair, the least", s, 1);
         T.due("41 only of its level", s.watch(2, 0, 1, 0), 1);
         T.dueRow("41 only of its level", s, 2);
+        WomenByTheRoofs all = Tester.made(".../.#./...", "m1:o;m3:o");
+        T.due("41 all", all.watch(0, 0, 8, 0), 2);
+        T.dueRow("41 all", all, 3);
         WomenByTheRoofs n = Tester.made(".#.", "m0:o");
         T.due("41 none needed", n.watch(0, 0, 2, 0), 0);
         T.dueRow("41 none needed", n, 0);

@@ -94,6 +94,9 @@ public final class MinutesTest {
         T.due("16 all", y.count(8), 4);
         y.feast(1);
         T.due("16 whatever level", y.minute(), 4);
+        WomenByTheRoofs first = Tester.made("s", "w0:o;m0:o");
+        T.due("16 a woman of number 0", first.minute(), 1);
+        T.due("16 they met", first.met(1, 0), 1);
         WomenByTheRoofs z = Tester.made("h.h", "w0:rl;m1:r");
         z.plank(0, 2);
         T.due("16 over a plank", z.minute(), 0);
@@ -301,6 +304,7 @@ public final class MinutesTest {
         T.due("19 twelve are kept", y.count(10), 12);
         for (int i = 11; i >= 0; i--) {
             T.due("19 back", y.undo(), i);
+            T.due("19 back to", y.count(3), 2 + i);
         }
         T.due("19 the latest ones", y.count(3), 2);
         T.due("19 no more", y.undo(), -1);

@@ -198,6 +198,7 @@ public final class NetsTest {
         T.due("32 others", x.part(0, 4), -1);
         T.due("32 nothing changes", x.cell(0, 0), 3);
         WomenByTheRoofs n = Tester.made("./h", "m0:o;w1:o");
+        n.pieces(0);
         T.due("32 none need be", n.part(0, 1), 0);
         T.dueRow("32 none need be", n);
         WomenByTheRoofs three = Tester.made("hhh/sss/...", "m6:o;w0:o");

@@ -185,6 +185,9 @@ public final class TownTest {
         T.due("5 first digit at 75, could go on to a cell", Tester.folk(x, shifted + "m12:r"), -77);
         T.due("5 first digit at 75, could not go on", Tester.folk(x, shifted + "m9:r"), -76);
         T.due("5 first digit at 75, ends there", Tester.folk(x, shifted + "m1"), -76);
+        Tester.town(x, "hhhhhh/hhhh.h");
+        String ten = shifted.replace("m12", "m10");
+        T.due("5 first digit at 75, of a cell at the edge", Tester.folk(x, ten + "m1:r"), -77);
     }
 
     private static void rule() {
@@ -241,6 +244,9 @@ public final class TownTest {
         same(x, "1<2", "1");
         same(x, "2<1", "0");
         same(x, "2>1", "1");
+        same(x, "1<1", "0");
+        same(x, "1>1", "0");
+        same(x, "1=2", "0");
         same(x, "1+1=2", "1");
         same(x, "1<2+5", "1");
         same(x, "5-(1<2)", "4");
@@ -412,6 +418,9 @@ public final class TownTest {
         T.due("11 no such roofs, asked first", x.plank(0, 1), -2);
         T.due("11 six", x.count(4), 6);
         T.due("11 refused ones are not undone", x.count(10), 6);
+        Tester.town(x, "h..");
+        T.due("11 the second is no roof", x.plank(0, 2), -2);
+        T.due("11 the first is no roof", x.plank(2, 0), -2);
         Tester.town(x, "h/./h");
         T.due("11 one wide", x.plank(2, 0), 0);
         T.due("11 goes up", x.path(1, 2, 0), 1);
