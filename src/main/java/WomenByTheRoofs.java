@@ -248,7 +248,7 @@ public final class WomenByTheRoofs {
 
     public int minute() {
         before.copy(scene);
-        goOn(scene);
+        clock.pass(scene, crowd, ground, law, nets);
         history.add(before);
         emptyRow();
         note(clock.stepped);
@@ -263,7 +263,7 @@ public final class WomenByTheRoofs {
         before.copy(scene);
         clock.reset();
         for (int i = 0; i < n; i++) {
-            goOn(scene);
+            clock.pass(scene, crowd, ground, law, nets);
         }
         if (n > 0) {
             history.add(before);
@@ -321,7 +321,7 @@ public final class WomenByTheRoofs {
         spare.copy(scene);
         clock.reset();
         for (int i = 0; i < n; i++) {
-            goOn(spare);
+            clock.pass(spare, crowd, ground, law, nets);
         }
         emptyRow();
         for (int person = 0; person < crowd.many; person++) {
@@ -339,7 +339,7 @@ public final class WomenByTheRoofs {
         }
         spare.copy(scene);
         for (int after = 1; after <= LONGEST; after++) {
-            goOn(spare);
+            clock.pass(spare, crowd, ground, law, nets);
             int cell = spare.at[one];
             if (cell == spare.at[other] && ground.isStair(cell)) {
                 emptyRow();
@@ -355,7 +355,7 @@ public final class WomenByTheRoofs {
         spare.copy(scene);
         int after = 0;
         for (int i = 0; i < LONGEST && spare.news != all; i++) {
-            goOn(spare);
+            clock.pass(spare, crowd, ground, law, nets);
             after++;
         }
         emptyRow();
@@ -370,7 +370,8 @@ public final class WomenByTheRoofs {
         int best = NONE;
         int most = hearers(n, 0);
         for (int person = 0; person < crowd.many; person++) {
-            int heard = hearers(n, 1 << person);
+            boolean fresh = (scene.news >> person & 1) == 0;
+            int heard = fresh ? hearers(n, 1 << person) : 0;
             if (heard > most) {
                 most = heard;
                 best = person;
@@ -508,8 +509,12 @@ public final class WomenByTheRoofs {
         if (!areManAndWoman(man, woman)) {
             return NONE;
         }
+        long closable = nets.stairs() & ~(1L << scene.at[man]) & ~(1L << scene.at[woman]);
+        if (canTryst(man, woman, closable)) {
+            return CANNOT;
+        }
         for (int many = 0; many <= PARTED; many++) {
-            long closed = partedBy(man, woman, many, 0, 0L);
+            long closed = partedBy(man, woman, closable, many, 0L);
             if (closed >= 0L) {
                 emptyRow();
                 for (int cell = 0; cell < CELLS; cell++) {
@@ -624,7 +629,7 @@ public final class WomenByTheRoofs {
         }
         spare.copy(scene);
         for (int i = 0; i < n; i++) {
-            goOn(spare);
+            clock.pass(spare, crowd, ground, law, nets);
             thief.record(i, spare.occupied(BELOW, crowd.many), spare.occupied(ABOVE, crowd.many));
         }
         thief.below = nets.net[BELOW];
@@ -765,10 +770,6 @@ public final class WomenByTheRoofs {
 
     // ---- what calls and ACTS of an evening do alike
 
-    private void goOn(Scene which) {
-        clock.pass(which, crowd, ground, law, nets);
-    }
-
     private boolean canBecome(int cell, int what) {
         for (int level = BELOW; level <= ABOVE; level++) {
             boolean lost = (what >> level & 1) == 0;
@@ -864,7 +865,7 @@ public final class WomenByTheRoofs {
             return false;
         }
         for (int i = 0; i < n; i++) {
-            goOn(scene);
+            clock.pass(scene, crowd, ground, law, nets);
         }
         return true;
     }
@@ -882,7 +883,7 @@ public final class WomenByTheRoofs {
         spare.copy(scene);
         spare.news |= more;
         for (int i = 0; i < n; i++) {
-            goOn(spare);
+            clock.pass(spare, crowd, ground, law, nets);
         }
         return Integer.bitCount(spare.news);
     }
@@ -933,14 +934,15 @@ public final class WomenByTheRoofs {
         return best == NONE ? FAR : ways.later(best);
     }
 
-    /** The first so many stairs more that part the two, with those closed yet; or -1. */
-    private long partedBy(int man, int woman, int more, int first, long closed) {
+    /** The least so many stairs, with those closed yet, that part the two; or -1. */
+    private long partedBy(int man, int woman, long closable, int more, long closed) {
         if (more <= 0) {
             return canTryst(man, woman, closed) ? -1L : closed;
         }
-        for (int cell = first; cell < ground.size; cell++) {
-            if (ground.isStair(cell) && cell != scene.at[man] && cell != scene.at[woman]) {
-                long found = partedBy(man, woman, more - 1, cell + 1, closed | 1L << cell);
+        for (int cell = 0; cell < ground.size; cell++) {
+            boolean behindClosed = closed >> cell == 0L;
+            if (behindClosed && (closable >> cell & 1L) != 0L) {
+                long found = partedBy(man, woman, closable, more - 1, closed | 1L << cell);
                 if (found >= 0L) {
                     return found;
                 }
@@ -985,7 +987,7 @@ public final class WomenByTheRoofs {
     }
 
     private void hunt() {
-        goOn(spare);
+        clock.pass(spare, crowd, ground, law, nets);
         thief.stir(nets);
         thief.record(0, spare.occupied(BELOW, crowd.many), spare.occupied(ABOVE, crowd.many));
         thief.strike(0);
@@ -1093,11 +1095,12 @@ public final class WomenByTheRoofs {
         }
 
         boolean holds(int level, int cell) {
-            return level >= BELOW && level <= ABOVE && has(cell) && (kind[cell] >> level & 1) != 0;
+            return level >= BELOW && level <= ABOVE && cell >= 0 && cell < size && cell < CELLS
+                    && (kind[cell] >> level & 1) != 0;
         }
 
         boolean isStair(int cell) {
-            return has(cell) && kind[cell] == STAIR;
+            return cell >= 0 && cell < size && cell < CELLS && kind[cell] == STAIR;
         }
 
         int column(int cell) {
@@ -1110,18 +1113,19 @@ public final class WomenByTheRoofs {
 
         /** The next CELL on the map in a direction, or NONE. */
         int beside(int cell, int side) {
-            if (!has(cell)) {
+            if (cell < 0 || cell >= size || wide < 1) {
                 return NONE;
             }
+            int column = cell % wide;
             switch (side) {
                 case 0:
                     return cell >= wide ? cell - wide : NONE;
                 case 1:
-                    return column(cell) + 1 < wide ? cell + 1 : NONE;
+                    return column + 1 < wide ? cell + 1 : NONE;
                 case 2:
                     return cell + wide < size ? cell + wide : NONE;
                 case 3:
-                    return column(cell) > 0 ? cell - 1 : NONE;
+                    return column > 0 ? cell - 1 : NONE;
                 default:
                     return NONE;
             }
@@ -1756,11 +1760,9 @@ public final class WomenByTheRoofs {
 
         /** On a FEAST those women do not go that are above. */
         boolean goes(int person, Scene scene, Crowd crowd, Ground ground) {
-            boolean rests = scene.festive == 1 && scene.level[person] == ABOVE;
-            return !rests && (size == 0 || valueOf(person, scene, crowd, ground) != 0);
-        }
-
-        private int valueOf(int person, Scene scene, Crowd crowd, Ground ground) {
+            if (scene.festive == 1 && scene.level[person] == ABOVE) {
+                return false;
+            }
             top = 0;
             for (int i = 0; i < size && i < RULE_SIGNS; i++) {
                 int part = parts[i];
@@ -1772,7 +1774,7 @@ public final class WomenByTheRoofs {
                     work(-part);
                 }
             }
-            return pop();
+            return size == 0 || pop() != 0;
         }
 
         private void push(int value) {
