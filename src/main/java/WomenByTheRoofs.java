@@ -1602,7 +1602,8 @@ public final class WomenByTheRoofs {
     /** THE RULE, held with each operation behind what it works on. */
     private static final class Law {
         static final int DEEPEST = 4;
-        static final int NEGATED = '~';
+        // above 255, so that no sign of a text can be taken for it
+        static final int NEGATED = 256;
         final int[] parts;
         final int[] newParts;
         final int[] waiting;

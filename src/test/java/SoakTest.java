@@ -231,7 +231,8 @@ public final class SoakTest {
     private String spoil(String text, String signs) {
         StringBuilder spoiled = new StringBuilder(text);
         int at = below(text.length() + 1);
-        String sign = String.valueOf(signs.charAt(below(signs.length())));
+        char any = (char) below(256);
+        String sign = String.valueOf(chance(25) ? any : signs.charAt(below(signs.length())));
         switch (below(4)) {
             case 0: spoiled.insert(at, sign); break;
             case 1: spoiled.setLength(at); break;

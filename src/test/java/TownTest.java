@@ -204,6 +204,8 @@ public final class TownTest {
         for (int i = 0; i < bad.length; i++) {
             T.due("6 " + bad[i], Tester.rule(x, bad[i]), -1 - where[i]);
         }
+        x.sign(964596426);
+        T.due("6 a sign of no rule behind a number", x.rule(), -2);
         T.due("6 text is emptied", x.count(12), 0);
         T.due("6 40 signs", Tester.rule(x, Tester.repeat("-", 39) + "1"), 0);
         T.due("6 41 signs", Tester.rule(x, Tester.repeat("-", 40) + "1"), -41);
