@@ -51,6 +51,66 @@ final class Tester {
         }
     }
 
+    /** A refused call: its answer, and all is as it was, the ROW and THE TEXT too. */
+    void refused(String what, WomenByTheRoofs x, Call call, int want) {
+        String text = "text of " + x.count(12);
+        String before = stateOf(x) + Arrays.toString(rowOf(x));
+        due(what, call.answer(), want);
+        same(what + " changes nothing", stateOf(x) + Arrays.toString(rowOf(x)), before);
+        same(what + " leaves the text", "text of " + x.count(12), text);
+    }
+
+    /** A refused call that reads THE TEXT: this is empty then, and all else is as it was. */
+    void refusedText(String what, WomenByTheRoofs x, String text, Call call, int want) {
+        say(x, text);
+        String before = stateOf(x) + Arrays.toString(rowOf(x));
+        due(what, call.answer(), want);
+        same(what + " changes nothing", stateOf(x) + Arrays.toString(rowOf(x)), before);
+        due(what + " empties the text", x.count(12), 0);
+    }
+
+    /** A question: its answer and ROW; all else is as it was. */
+    void asked(String what, WomenByTheRoofs x, Call call, int want, int... row) {
+        String text = "text of " + x.count(12);
+        String before = stateOf(x);
+        due(what, call.answer(), want);
+        dueRow(what, x, row);
+        same(what + " changes nothing", stateOf(x), before);
+        same(what + " leaves the text", "text of " + x.count(12), text);
+    }
+
+    void same(String what, String got, String want) {
+        if (got.equals(want)) {
+            right++;
+        } else {
+            wrong++;
+            System.out.println(name + ": " + what + ": " + got + ", due is " + want);
+        }
+    }
+
+    /** All that can be looked at but the ROW and THE TEXT. */
+    static String stateOf(WomenByTheRoofs x) {
+        StringBuilder all = new StringBuilder();
+        for (int what = 0; what <= 10; what++) {
+            all.append(x.count(what)).append(' ');
+        }
+        for (int cell = 0; cell < x.count(0); cell++) {
+            for (int what = 0; what < 6; what++) {
+                all.append(x.cell(cell, what)).append(',');
+            }
+        }
+        for (int one = 0; one < x.count(2); one++) {
+            all.append(' ');
+            for (int what = 0; what < 8; what++) {
+                all.append(x.person(one, what)).append(',');
+            }
+            for (int other = 0; other < x.count(2); other++) {
+                all.append(x.met(one, other)).append(';');
+            }
+        }
+        return all.toString();
+    }
+
     static int[] rowOf(WomenByTheRoofs x) {
         int[] row = new int[x.count(11)];
         for (int i = 0; i < row.length; i++) {
