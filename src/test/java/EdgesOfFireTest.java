@@ -282,6 +282,14 @@ public final class EdgesOfFireTest {
         T.asked("39 all", all, () -> all.lairs(30), 72, HALF, HALF, HALF, HALF);
         WomenByTheRoofs x = Tester.made(".#s/h##", "m0:o");
         T.asked("39 one", x, () -> x.lairs(1), 3, 4, 0, 12, 0);
+        WomenByTheRoofs near = Tester.made("......", "m0:o;m1:o;m2:o");
+        T.asked("39 the next but one can", near, () -> near.lairs(1), 4, 0b111100, 0, 0, 0);
+        T.asked("39 in two it can't from nearer", near, () -> near.lairs(2), 4, 0b111100, 0, 0, 0);
+        WomenByTheRoofs full = Tester.made("..", "m0:o;m1:o");
+        T.asked("39 all are caught", full, () -> full.lairs(30), 0, 0, 0, 0, 0);
+        Tester.town(full, "..");
+        T.asked("39 nobody is there any more", full, () -> full.lairs(1), 2, 3, 0, 0, 0);
+        T.asked("39 nor later", full, () -> full.lairs(29), 2, 3, 0, 0, 0);
         WomenByTheRoofs two = Tester.made("######/######/#####h/.#####/######/######", "w17:o;m18:o");
         T.asked("39 both are caught", two, () -> two.lairs(1), 0, 0, 0, 0, 0);
         WomenByTheRoofs half = Tester.made("######/######/#####h/.#####/######/######", "");

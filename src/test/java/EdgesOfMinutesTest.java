@@ -367,6 +367,13 @@ public final class EdgesOfMinutesTest {
         T.due("18 60", Tester.evening(x, nineteen + "m11"), 20);
         T.due("18 all of them", x.count(3), 30);
         T.due("18 59", Tester.evening(x, nineteen + "m1"), 20);
+        String eighteen = "m1;".repeat(18);
+        T.due("18 60 with a letter at the end", Tester.evening(x, eighteen + "m11;na"), 20);
+        T.due("18 it was told", x.count(6), 1);
+        WomenByTheRoofs h = Tester.made("h.h", "");
+        T.due("18 60 with a plank at the end", Tester.evening(h, eighteen + "p00-02"), 19);
+        T.due("18 it was laid", h.count(4), 1);
+        T.due("18 60 with x at the end", Tester.evening(h, eighteen + "f;m1;x"), 21);
     }
 
     // ---- 19
@@ -464,6 +471,19 @@ public final class EdgesOfMinutesTest {
             T.due("19 undone to " + i, x.undo(), i);
             T.same("19 as ahead of call " + i, Tester.stateOf(x), was[i]);
         }
+        WomenByTheRoofs full = Tester.made("ss", "w0:rl;m0:rl;".repeat(4).substring(0, 47));
+        full.minute();
+        full.feast(1);
+        String then = Tester.stateOf(full);
+        full.minute();
+        full.feast(0);
+        full.tell(7);
+        full.minutes(2);
+        full.undo();
+        full.undo();
+        full.undo();
+        full.undo();
+        T.same("19 eight as ahead of it", Tester.stateOf(full), then);
         WomenByTheRoofs p = Tester.made("h.h", "w0:r");
         p.plank(0, 2);
         p.take();

@@ -135,6 +135,11 @@ public final class EdgesOfNetsTest {
         T.refused("27 another level below 0", x, () -> x.path(-1, 0, 0), -1);
         WomenByTheRoofs edge = town("..#/#..");
         T.asked("27 not round the edge", edge, () -> edge.path(0, 0, 5), 3, 1, 2, 1);
+        WomenByTheRoofs last = town("....../....../....../....../.....#/....#.");
+        T.refused("27 one can't from the last cell", last, () -> last.path(0, 35, 0), -2);
+        T.refused("27 one can't to the last cell", last, () -> last.path(0, 0, 35), -2);
+        T.asked("27 no step in the last cell", last, () -> last.path(0, 35, 35), 0);
+        T.refused("27 one can't from it still", last, () -> last.path(0, 35, 0), -2);
         WomenByTheRoofs far = town("#.#/.#.");
         T.refused("27 a row's end is not beside the next row", far, () -> far.path(0, 1, 3), -2);
     }
@@ -172,6 +177,9 @@ public final class EdgesOfNetsTest {
         p.plank(2, 0);
         T.asked("27 by another", p, () -> p.path(1, 0, 2), 1, 1);
         T.asked("27 of two ways with planks the least", p, () -> p.path(1, 0, 5), 2, 1, 2);
+        WomenByTheRoofs q = town("h.h/hhh");
+        q.plank(0, 2);
+        T.asked("27 not by one as far as itself", q, () -> q.path(1, 3, 5), 2, 1, 1);
     }
 
     // ---- 28
@@ -286,6 +294,11 @@ public final class EdgesOfNetsTest {
         T.asked("30 at once", now, () -> now.tryst(0, 1), 1, 0);
         WomenByTheRoofs last = Tester.made("######/######/######/######/######/##.ssh", "m32:o;w35:o");
         T.asked("30 of equal ones the first, far down", last, () -> last.tryst(0, 1), 33, 2);
+        WomenByTheRoofs corner = Tester.made("######/######/######/######/#####h/####.s", "m34:o;w29:o");
+        T.asked("30 in the last cell", corner, () -> corner.tryst(0, 1), 35, 1);
+        T.asked("32 the last cell", corner, () -> corner.part(0, 1), 1, 35);
+        WomenByTheRoofs out = Tester.made("######/######/######/######/#####h/###.#s", "m33:o;w29:o");
+        T.refused("30 the last cell, he can't", out, () -> out.tryst(0, 1), -2);
         WomenByTheRoofs snake = Tester.made(SNAKE, "m0:o;w35:o");
         T.asked("30 midway", snake, () -> snake.tryst(0, 1), 14, 10);
         WomenByTheRoofs none = Tester.made(".h", "m0:o;w1:o");
@@ -350,6 +363,13 @@ public final class EdgesOfNetsTest {
         T.refused("31 all are stairs", stairs, () -> stairs.open(0, 1), -2);
         WomenByTheRoofs neither = Tester.made("s#", "m0:o;w0:o");
         T.refused("31 neither is no such cell", neither, () -> neither.open(0, 1), -2);
+        WomenByTheRoofs six = Tester.made("h.h.h/...../h.h.h", "m1:o;w2:o");
+        int[][] laid = {{2, 4}, {10, 12}, {12, 14}, {0, 10}, {4, 14}, {0, 2}};
+        T.asked("31 under no plank", six, () -> six.open(0, 1), 1, 1);
+        for (int[] two : laid) {
+            six.plank(two[0], two[1]);
+        }
+        T.asked("31 not under the sixth plank", six, () -> six.open(0, 1), 0, 1);
         WomenByTheRoofs under = Tester.made("s.s", "m0:o;w2:o");
         under.plank(0, 2);
         T.refused("31 the only one is under a plank", under, () -> under.open(0, 1), -2);
@@ -410,6 +430,9 @@ public final class EdgesOfNetsTest {
         T.refused("33 from no such cell", x, () -> x.planks(12, 0), -1);
         T.refused("33 to no such cell", x, () -> x.planks(0, -1), -1);
         T.refused("33 the most", x, () -> x.planks(MOST, LEAST), -1);
+        WomenByTheRoofs last = town("######/######/######/######/######/###h.h");
+        T.asked("33 from the last cell", last, () -> last.planks(35, 33), 1, 1);
+        T.asked("33 to the last cell", last, () -> last.planks(33, 35), 1, 1);
         WomenByTheRoofs edge = town("..h/.#./h..");
         T.refused("33 not round an edge", edge, () -> edge.planks(2, 6), -2);
         WomenByTheRoofs wrap = town("#h./h##");

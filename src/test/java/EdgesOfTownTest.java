@@ -8,6 +8,7 @@ public final class EdgesOfTownTest {
         stepsAtTheEdge();
         stepsOverPlanks();
         routesGoRound();
+        ninthSteps();
         aNewObject();
         signs();
         ends();
@@ -18,9 +19,12 @@ public final class EdgesOfTownTest {
         routesOfFolk();
         roomForFolk();
         lengthOfFolk();
+        cellsCutOff();
         nothingOfFolk();
         lengthOfARule();
         thingsOfARule();
+        nothingOfARule();
+        qualities();
         intsOfARule();
         divisions();
         routes();
@@ -103,6 +107,23 @@ public final class EdgesOfTownTest {
         T.due("terms, one that goes: its place is the next one", x.person(2, 3), 0);
     }
 
+    /** "a ROUTE of 1 to 9 signs", of the last of eight too. */
+    private static void ninthSteps() {
+        WomenByTheRoofs x = Tester.made("..", "m0:oooooooor" + ";m0:o".repeat(7));
+        T.due("terms, the last one's ninth", Tester.route(x, 7, "oooooooor"), 9);
+        x.minutes(8);
+        T.dueRow("terms, eight signs o", x, 0, 0);
+        x.minute();
+        T.dueRow("terms, the ninth sign", x, 0b10000001, 0);
+        T.due("terms, the first again", x.person(0, 3) + x.person(7, 3), 0);
+        Tester.route(x, 7, "l");
+        x.minute();
+        T.dueRow("terms, a shorter one", x, 0b10000000, 0);
+        Tester.route(x, 7, "oor");
+        x.minutes(6);
+        T.dueRow("terms, of three once", x, 1, 0);
+    }
+
     // ---- 1 to 3
 
     private static void aNewObject() {
@@ -122,6 +143,12 @@ public final class EdgesOfTownTest {
         T.due("1 no plank", x.take(), -1);
         T.due("1 nothing kept", x.again(0) || x.again(1), false);
         T.due("1 no fire", x.fire(0), -1);
+        for (int level = 0; level < 2; level++) {
+            int of = level;
+            T.asked("1 one piece", x, () -> x.pieces(of), 1, 1, 0);
+            T.asked("1 one cell to reach", x, () -> x.reach(of, 0), 1, 1, 0);
+            T.asked("1 a thief on both levels", x, () -> x.flees(0, of, 1), 1, 1, 0, 1, 0);
+        }
         WomenByTheRoofs y = new WomenByTheRoofs();
         T.due("1 of it a man and a woman can be on", Tester.folk(y, "m0:o;w0:o"), 2);
         T.due("1 one wide and one high", y.count(1) * 10 + y.count(0), 11);
@@ -146,6 +173,10 @@ public final class EdgesOfTownTest {
         WomenByTheRoofs y = new WomenByTheRoofs();
         T.due("2 signs 0 are signs", y.sign(0), 4);
         T.due("2 a sign 0 is no sign of a town", y.town(), -1);
+        T.refusedText("2 nor behind one", y, "s\0s", y::town, -2);
+        T.refusedText("2 nor one of folk", y, "m0:u\0", y::folk, -5);
+        T.refusedText("2 nor one of a rule", y, "1\0", y::rule, -2);
+        T.refusedText("2 nor one of an evening", y, "f\0", y::evening, -2);
         y.sign(0x73f3f3f3);
         T.due("2 a byte above 127 is itself", y.town(), -2);
         y.sign(0xf3737373);
@@ -249,6 +280,17 @@ public final class EdgesOfTownTest {
         T.due("4 all are at their first place", x.person(0, 3), 0);
         T.due("4 no feast: she is above", x.person(1, 2), 1);
         T.due("4 no feast: she goes", x.person(2, 7), 1);
+        WomenByTheRoofs full = Tester.made("s", "w0:oo;m0:oo;".repeat(4).substring(0, 47));
+        full.minutes(3);
+        T.due("4 all of eight met", full.count(8), 48);
+        T.due("4 all of eight are at a second place", full.person(0, 3) * full.person(7, 3), 1);
+        Tester.town(full, "s");
+        Tester.folk(full, "w0:oo;m0:oo;".repeat(4).substring(0, 47));
+        T.due("4 nobody of eight met", full.count(8), 0);
+        for (int one = 0; one < 8; one++) {
+            T.due("4 met nobody: " + one, full.person(one, 6), 0);
+            T.due("4 at its first place: " + one, full.person(one, 3), 0);
+        }
     }
 
     // ---- 5
@@ -341,6 +383,29 @@ public final class EdgesOfTownTest {
         T.due("5 76", Tester.folk(y, five + "m0:oooooooo"), 6);
     }
 
+    /** "the first 76 could go on": the last of them a digit that is no CELL, unless another comes behind it. */
+    private static void cellsCutOff() {
+        WomenByTheRoofs x = new WomenByTheRoofs();
+        Tester.town(x, "hhhhhh/hhh.hh");
+        String nine = "m9:ooooooooo;".repeat(5) + "m9:ooooo;";
+        T.refusedText("5 09 could come", x, nine + "m0" + ":o", x::folk, -77);
+        T.refusedText("5 09 comes", x, nine + "m0" + "9", x::folk, -77);
+        T.refusedText("5 none of 10 to 19 could", x, nine + "m1" + "0", x::folk, -76);
+        T.refusedText("5 it ends with 0", x, nine + "m0", x::folk, -76);
+        T.refusedText("5 9 is a cell", x, nine + "m9" + "9", x::folk, -77);
+        Tester.town(x, "hhhhhh/hhhhhh/hhhhhh/h.hhhh");
+        String nineteen = "m19:ooooooooo;".repeat(4) + "m19:ooooo;m19:ooo;";
+        T.refusedText("5 19 could come", x, nineteen + "m1" + "?", x::folk, -77);
+        T.refusedText("5 none of 0 to 9 could", x, nineteen + "m0" + "?", x::folk, -76);
+        T.refusedText("5 none of 20 to 29 could", x, nineteen + "m2" + "?", x::folk, -76);
+        T.refusedText("5 a woman's 10 could", x, nineteen + "w1" + "?", x::folk, -77);
+        Tester.town(x, "hhhhhh/hhhhhh/hhhhhh/hh.hhh");
+        String twenty = nineteen.replace("19", "20");
+        T.refusedText("5 none of 10 to 19 could, 20 is one", x, twenty + "m1" + "?", x::folk, -76);
+        T.refusedText("5 20 could come", x, twenty + "m2" + "?", x::folk, -77);
+        T.refusedText("5 none of 30 to 39 could", x, twenty + "m3" + "?", x::folk, -76);
+    }
+
     /** "Nothing of it comes, if a LINE can't"; "an empty one: nothing". */
     private static void nothingOfFolk() {
         WomenByTheRoofs x = new WomenByTheRoofs();
@@ -376,6 +441,8 @@ public final class EdgesOfTownTest {
         }
         T.due("6 40", Tester.rule(x, nineteen + "11"), 0);
         T.due("6 40 of brackets", Tester.rule(x, "((((" + "1+".repeat(15) + "11" + "))))"), 0);
+        goes(x, "-1" + "+1".repeat(18) + "=1", 0);
+        goes(x, "-9" + "+1".repeat(18) + "=9", 1);
         T.due("6 39 of - and 0", Tester.rule(x, "-".repeat(39) + "0"), 0);
         T.due("6 it is 0", x.person(0, 7), 0);
         T.due("6 an empty one: none", Tester.rule(x, ""), 0);
@@ -408,6 +475,47 @@ public final class EdgesOfTownTest {
     private static void goes(WomenByTheRoofs x, String text, int want) {
         T.due("6 is told " + text, Tester.rule(x, text), 0);
         T.due("6 " + text, x.person(0, 7), want);
+    }
+
+    /** Of a rule that was refused nothing is left, neither in the one that is there nor in the next one. */
+    private static void nothingOfARule() {
+        String[] bad = {"0*", "0*(", "0*((0", "1-", "-", "(0<", "0*-", "0=1=1", "((((("};
+        for (String text : bad) {
+            WomenByTheRoofs x = Tester.made("s", "m0:o");
+            Tester.rule(x, "0");
+            Tester.rule(x, text);
+            T.due("6 behind " + text + " as it was", x.person(0, 7), 0);
+            goes(x, "1", 1);
+            Tester.rule(x, text);
+            goes(x, "1<2", 1);
+            Tester.rule(x, text);
+            goes(x, "(1)-1", 0);
+        }
+    }
+
+    /** "w 1 if a woman, x its column, y its row, n how many others .., s 1 if it is on a stair, k 1 if ..". */
+    private static void qualities() {
+        WomenByTheRoofs x = Tester.made("s", "w0:o;m0:o");
+        x.tell(0);
+        goes(x, "w=1", 1);
+        goes(x, "s=1", 1);
+        goes(x, "k=1", 1);
+        goes(x, "n=0", 1);
+        goes(x, "x+y+i+m=0", 1);
+        WomenByTheRoofs column = Tester.made("./././././.", "m5:o");
+        goes(column, "y=5", 1);
+        goes(column, "x=0", 1);
+        goes(column, "w+s+k+n", 0);
+        WomenByTheRoofs row = Tester.made("......", "m5:o");
+        goes(row, "x=5", 1);
+        goes(row, "y=0", 1);
+        WomenByTheRoofs last = Tester.made("ssssss/ssssss/ssssss/ssssss/ssssss/ssssss", "m35:o" + ";m35:o".repeat(7));
+        goes(last, "x*10+y=55", 1);
+        goes(last, "n=7", 1);
+        Tester.rule(last, "i=7");
+        T.due("6 i of the last", last.person(7, 7), 1);
+        last.minutes(60);
+        goes(last, "m=60", 1);
     }
 
     /** "As ints.": beyond 2147483647 comes -2147483648. */
@@ -591,6 +699,16 @@ public final class EdgesOfTownTest {
             z.take();
             T.due("10 it is taken", z.build(1, what), 1);
         }
+        WomenByTheRoofs six = Tester.made("h.h.h/...../h.h.h", "");
+        int[][] laid = {{0, 2}, {2, 4}, {10, 12}, {12, 14}, {0, 10}, {4, 14}};
+        int[] under = {1, 3, 11, 13, 5, 9};
+        for (int i = 0; i < 6; i++) {
+            six.plank(laid[i][0], laid[i][1]);
+        }
+        for (int cell : under) {
+            T.due("10 under one of six", six.build(cell, 2), -1);
+        }
+        T.due("10 under none of six", six.build(7, 2), 1);
         WomenByTheRoofs u = Tester.made("h.h", "");
         u.plank(0, 2);
         u.undo();
@@ -657,6 +775,7 @@ public final class EdgesOfTownTest {
         x.undo();
         x.undo();
         T.due("11 as six were", x.count(4), 6);
+        T.due("11 the sixth as it was", x.cell(10, 3) * 100 + x.cell(14, 3), 0b100100 * 100 + 0b010000);
         T.refused("11 six again", x, () -> x.plank(12, 14), -4);
     }
 
@@ -713,6 +832,14 @@ public final class EdgesOfTownTest {
             T.due("13 all 0", x.person(0, 3) + x.person(1, 3) + x.person(2, 3), 0);
         }
         T.refused("13 missing of nine", x, () -> x.sheet(3, 9, 4, 4), -1);
+        WomenByTheRoofs all = Tester.made(".", "m0:oo" + ";m0:oo".repeat(7));
+        T.due("13 of eight", all.sheet(2, 8, 1, 0), 8);
+        T.due("13 the last of eight", all.person(7, 3), 1);
+        T.due("13 of seven", all.sheet(2, 7, 1, 0), 7);
+        T.due("13 the last is behind it", all.person(7, 3), 0);
+        all.sheet(2, 8, 1, 0);
+        all.sheet(3, 8, 1, 0);
+        T.due("13 the last is 0 too", all.person(7, 3), 0);
         WomenByTheRoofs e = new WomenByTheRoofs();
         T.due("13 of nobody", e.sheet(2, 8, 4, 4), 0);
         T.due("13 of nobody, missing", e.sheet(3, 0, 0, 0), -3);
